@@ -6,6 +6,7 @@ final class DropTest {
         eventsStay();
         wrongRowsStay();
         whileRowsWait();
+        numbersHaveNoSign();
         loss();
         Check.end();
     }
@@ -83,6 +84,13 @@ final class DropTest {
         Check.due("number", disk.row(0, 0), 4);
         Check.due("sector", disk.row(0, 4), 2);
         Check.due("byte", disk.at(1, 0), 51);
+    }
+
+    private static void numbersHaveNoSign() {
+        PostDisk disk = Disks.withRows(16, 2);
+        Disks.write(disk, 3, Disks.row(1, 0x80000000));
+        Check.due("a row of a great number stays", disk.drop(Integer.MAX_VALUE), 1);
+        Check.due("its sector", disk.row(0, 4), 3);
     }
 
     private static void loss() {

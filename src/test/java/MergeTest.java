@@ -3,6 +3,7 @@ final class MergeTest {
     public static void main(String[] args) {
         movesTheLastToTheLeast();
         stepByStep();
+        firstRowIsLastBySector();
         stepsOutside();
         refusals();
         movesWrongRowsAsTheyAre();
@@ -49,6 +50,25 @@ final class MergeTest {
         Check.due("merge(2)", disk.merge(2), 2);
         Check.due("merge(2)", disk.merge(2), 1);
         Check.due("merge(2)", disk.merge(2), 0);
+    }
+
+    private static void firstRowIsLastBySector() {
+        PostDisk disk = Disks.withRows(16, 3);
+        disk.drop(3);
+        Check.due("merge of one row", disk.merge(100), 1);
+        Check.due("its sector", disk.row(0, 4), 2);
+        disk = new PostDisk(16);
+        disk.end(0, false);
+        disk.end(0, false);
+        disk.end(0, true);
+        disk.sync();
+        disk.drop(9);
+        disk.end(0, true);
+        disk.sync();
+        Check.due("a newer row stands before", disk.row(1, 4), 2);
+        Check.due("merge", disk.merge(100), 1);
+        Check.due("sector of row 0", disk.row(0, 4), 3);
+        Check.due("sector of row 1", disk.row(1, 4), 2);
     }
 
     private static void stepsOutside() {

@@ -6,6 +6,7 @@ final class StartTest {
         noHead();
         headsThatAreNotSo();
         generationsHaveNoSign();
+        fourBytesHighestFirst();
         equalAsRead();
         Check.end();
     }
@@ -95,6 +96,19 @@ final class StartTest {
         Check.due("next number", disk.end(0, false), 10);
         Check.due("sync", disk.sync(), 1);
         Disks.dueSector("head", disk, 1, Disks.head(0x80000001, 10, 3, 4, 2));
+    }
+
+    private static void fourBytesHighestFirst() {
+        PostDisk disk = Disks.takeDown(Disks.withRows(16, 1));
+        Disks.write(disk, 0, Disks.head(0x01020304, 0x05060708, 3));
+        Check.due("start", disk.start(), 1);
+        Check.due("generation", disk.count(2), 0x01020304);
+        Check.due("greatest", disk.count(3), 0x05060708);
+        Check.due("next number", disk.end(0, false), 0x05060709);
+        Check.due("sync", disk.sync(), 1);
+        Disks.dueSector("head", disk, 1, Disks.head(0x01020305, 0x05060709, 3, 2));
+        Disks.dueSector("row", disk, 2, Disks.row(1, 0x05060709));
+        Check.due("number", disk.row(1, 0), 0x05060709);
     }
 
     /** What a start reads is what the object held before power went at a write of no byte. */
