@@ -274,7 +274,7 @@ public final class PostDisk {
     private boolean isDroppable(int sector, int before) {
         return platter.isRow(sector)
                 && !platter.isEvent(sector)
-                && unsigned(platter.fourBytes(sector, ROW_NUMBER)) < before;
+                && platter.fourBytes(sector, ROW_NUMBER) < before;
     }
 
     /** Answers whether power stayed. */
@@ -314,11 +314,6 @@ public final class PostDisk {
         return (mixed << 3 | mixed >>> 29) * SUM_FACTOR;
     }
 
-    /** Four bytes on the disk have no sign. */
-    private static long unsigned(int four) {
-        return four & 0xFFFFFFFFL;
-    }
-
     /** The sectors, the count of their writes, and the power that may go at one. */
     private static final class Platter {
         private final int sectors;
@@ -346,6 +341,7 @@ public final class PostDisk {
             }
         }
 
+        /** With a sign: numbers and generations are compared as row() and count() answer them. */
         int fourBytes(int sector, int i) {
             return look(sector, i) << 24
                     | look(sector, i + 1) << 16
@@ -553,12 +549,12 @@ public final class PostDisk {
             }
         }
 
-        private static long generationIn(Platter platter, int sector) {
-            return unsigned(platter.fourBytes(sector, HEAD_GENERATION));
+        private static int generationIn(Platter platter, int sector) {
+            return platter.fourBytes(sector, HEAD_GENERATION);
         }
 
         private void readFrom(Platter platter, int sector) {
-            generation = platter.fourBytes(sector, HEAD_GENERATION);
+            generation = generationIn(platter, sector);
             greatest = platter.fourBytes(sector, HEAD_GREATEST);
             int rows = Math.min(platter.look(sector, HEAD_KEPT), MOST_KEPT);
             for (int k = 0; k < rows; k++) {

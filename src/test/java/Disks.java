@@ -2,6 +2,11 @@
 final class Disks {
     static final int[] FAR = {Integer.MIN_VALUE, -1000, -3, -2, -1, 1001, 100000, Integer.MAX_VALUE};
 
+    /** Four bytes at the edges of a sign and of a byte. */
+    static final int[] EDGES = {
+        Integer.MIN_VALUE, Integer.MIN_VALUE + 1, -2, -1, 0, 1, 255, 256, Integer.MAX_VALUE - 1, Integer.MAX_VALUE
+    };
+
     private Disks() {}
 
     /** Ends a row of these bytes: its number. */

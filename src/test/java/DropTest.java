@@ -6,7 +6,8 @@ final class DropTest {
         eventsStay();
         wrongRowsStay();
         whileRowsWait();
-        numbersHaveNoSign();
+        numbersHaveASign();
+        edgesOfNumbers();
         loss();
         Check.end();
     }
@@ -86,11 +87,28 @@ final class DropTest {
         Check.due("byte", disk.at(1, 0), 51);
     }
 
-    private static void numbersHaveNoSign() {
+    private static void numbersHaveASign() {
         PostDisk disk = Disks.withRows(16, 2);
-        Disks.write(disk, 3, Disks.row(1, 0x80000000));
-        Check.due("a row of a great number stays", disk.drop(Integer.MAX_VALUE), 1);
-        Check.due("its sector", disk.row(0, 4), 3);
+        Disks.write(disk, 3, Disks.row(1, -100));
+        Check.due("its number", disk.row(1, 0), -100);
+        Check.due("drop at the number", disk.drop(-100), 0);
+        Check.due("drop above it", disk.drop(-99), 1);
+        Check.due("the row above 0 stays", disk.row(0, 0), 1);
+        Disks.dueSector("head", disk, 0, Disks.head(2, 2, 2));
+    }
+
+    /** Every pair of these: a row leaves when its number, as row() answers it, is below the other. */
+    private static void edgesOfNumbers() {
+        for (int number : Disks.EDGES) {
+            for (int before : Disks.EDGES) {
+                PostDisk disk = Disks.withRows(16, 1);
+                Disks.write(disk, 2, Disks.row(1, number));
+                Check.due("number " + number, disk.row(0, 0), number);
+                int left = number < before ? 1 : 0;
+                Check.due("number " + number + ", drop(" + before + ")", disk.drop(before), left);
+                Check.due("kept then", disk.count(0), 1 - left);
+            }
+        }
     }
 
     private static void loss() {

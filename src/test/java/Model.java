@@ -115,8 +115,10 @@ final class Model {
         generation = 0;
         greatest = 0;
         kept = new ArrayList<>();
+        boolean found = false;
         for (int sector = 0; sector < 2; sector++) {
-            if (isHead(sector) && four(sector, 1) > generation) {
+            if (isHead(sector) && (!found || four(sector, 1) > generation)) {
+                found = true;
                 generation = four(sector, 1);
                 greatest = four(sector, 5);
                 kept = listed(sector);
@@ -229,7 +231,7 @@ final class Model {
 
     private void writeHead(int number, List<Integer> all) throws Loss {
         int[] sectors = all.stream().mapToInt(Integer::intValue).toArray();
-        write((generation + 1) % 2, Disks.head(generation + 1, number, sectors));
+        write(Math.floorMod(generation + 1, 2), Disks.head(generation + 1, number, sectors));
         generation++;
         greatest = number;
         kept = all;

@@ -1,10 +1,11 @@
 import java.util.Random;
 import java.util.function.IntSupplier;
 
-/** Runs of 512 calls, drawn from seeds, on the class and on the model: all answers are the same. */
+/** Runs of up to 512 calls, drawn from seeds, on the class and on the model: all answers are the same. */
 final class ModelTest {
     private static final int RUNS = 3000;
     private static final int CALLS = 512;
+    private static final int MOST_CALLS_IN_A_STEP = 5;
     private static final int THREW = Integer.MIN_VALUE;
 
     private final Random random;
@@ -12,13 +13,14 @@ final class ModelTest {
     private final PostDisk disk;
     private final Model model;
     private final int style;
+    private int calls;
 
     private ModelTest(int seed) {
         random = new Random(seed);
         sectors = random.nextInt(4) == 0 ? random.nextInt(80) - 8 : 16 + random.nextInt(12);
         disk = new PostDisk(sectors);
         model = new Model(sectors);
-        style = random.nextInt(4);
+        style = random.nextInt(5);
     }
 
     public static void main(String[] args) {
@@ -29,8 +31,8 @@ final class ModelTest {
     }
 
     private void run(int seed) {
-        for (int i = 0; i < CALLS; i++) {
-            if (!call("seed " + seed + " call " + i)) {
+        while (calls <= CALLS - MOST_CALLS_IN_A_STEP) {
+            if (!call("seed " + seed + " call " + calls)) {
                 return;
             }
         }
@@ -55,7 +57,7 @@ final class ModelTest {
         if (pick < 80) return same(when + " row", () -> disk.row(b, a % 7), () -> model.row(b, a % 7));
         if (pick < 86) return same(when + " at", () -> disk.at(b, a % 43), () -> model.at(b, a % 43));
         if (pick < 89) return same(when + " wrong", () -> disk.wrong(a % 4), () -> model.wrong(a % 4));
-        if (pick < 92) return poke(when);
+        if (pick < 92) return style == 4 ? forge(when) : poke(when);
         if (pick < 97) return same(when + " octet", () -> disk.octet(b, a), () -> model.octet(b, a));
         return same(when + " writes", disk::writes, model::writes);
     }
@@ -95,10 +97,29 @@ final class ModelTest {
         if (style == 2) {
             return true;
         }
+        return poke(when, sector, i, mask);
+    }
+
+    /** Alters one byte of a head or of a row, and the sum with it, so that the sector is whole. */
+    private boolean forge(String when) {
+        int sector = random.nextInt(2 + random.nextInt(6));
+        int i = random.nextInt(random.nextInt(3) == 0 ? 14 : 6);
+        int mask = random.nextInt(3) == 0 ? random.nextInt() : 1 << random.nextInt(8);
+        boolean same = poke(when, sector, i, mask);
+        int sum = Disks.sum(model.sector(sector));
+        for (int j = 0; j < 4; j++) {
+            int due = sum >>> (24 - 8 * j);
+            same = same && poke(when, sector, 60 + j, due ^ model.sector(sector)[60 + j]);
+        }
+        return same;
+    }
+
+    private boolean poke(String when, int sector, int i, int mask) {
         return same(when + " poke", () -> disk.poke(sector, i, mask), () -> model.poke(sector, i, mask));
     }
 
-    private static boolean same(String call, IntSupplier got, IntSupplier want) {
+    private boolean same(String call, IntSupplier got, IntSupplier want) {
+        calls++;
         int due = answer(want);
         int answer = answer(got);
         Check.due(call, answer, due);

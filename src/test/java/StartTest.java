@@ -5,7 +5,9 @@ final class StartTest {
         readsTheGreaterGeneration();
         noHead();
         headsThatAreNotSo();
-        generationsHaveNoSign();
+        generationsHaveASign();
+        edgesOfGenerations();
+        oneHeadAlone();
         fourBytesHighestFirst();
         equalAsRead();
         Check.end();
@@ -89,13 +91,49 @@ final class StartTest {
         Check.due("greatest, head " + what, disk.count(3), generation == 8 ? 77 : 1);
     }
 
-    private static void generationsHaveNoSign() {
+    private static void generationsHaveASign() {
         PostDisk disk = Disks.takeDown(Disks.withRows(16, 1));
-        Disks.write(disk, 0, Disks.head(0x80000000, 9, 3, 4));
-        Check.due("start", disk.start(), 2);
-        Check.due("next number", disk.end(0, false), 10);
+        Disks.write(disk, 0, Disks.head(-2, 9, 3, 4));
+        Check.due("start", disk.start(), 1);
+        Check.due("generation", disk.count(2), 1);
+        Check.due("next number", disk.end(0, false), 2);
         Check.due("sync", disk.sync(), 1);
-        Disks.dueSector("head", disk, 1, Disks.head(0x80000001, 10, 3, 4, 2));
+        Disks.dueSector("head", disk, 0, Disks.head(2, 2, 2, 3));
+    }
+
+    /** Every pair of these: the head counts whose generation, as count(2) answers it, is greater. */
+    private static void edgesOfGenerations() {
+        for (int even : Disks.EDGES) {
+            for (int odd : Disks.EDGES) {
+                if (even != odd) {
+                    PostDisk disk = Disks.takeDown(Disks.withRows(16, 1));
+                    Disks.write(disk, 0, Disks.head(even, 9, 3, 4));
+                    Disks.write(disk, 1, Disks.head(odd, 9, 3, 4, 5));
+                    String heads = "heads " + even + " and " + odd;
+                    Check.due("start, " + heads, disk.start(), even > odd ? 2 : 3);
+                    Check.due("generation, " + heads, disk.count(2), Math.max(even, odd));
+                }
+            }
+        }
+    }
+
+    /** A generation below 1 counts when no other head is whole. */
+    private static void oneHeadAlone() {
+        int[] generations = {Integer.MIN_VALUE, -3, -2, -1, 0};
+        for (int generation : generations) {
+            for (int sector = 0; sector < 2; sector++) {
+                PostDisk disk = Disks.takeDown(Disks.withRows(16, 1));
+                Disks.write(disk, 1 - sector, new int[64]);
+                Disks.write(disk, sector, Disks.head(generation, 9, 3, 4));
+                String head = "head " + generation + " in " + sector;
+                Check.due("start, " + head, disk.start(), 2);
+                Check.due("generation, " + head, disk.count(2), generation);
+                Check.due("next number, " + head, disk.end(0, false), 10);
+                Check.due("sync, " + head, disk.sync(), 1);
+                int due = generation % 2 == 0 ? 1 : 0;
+                Disks.dueSector(head + ", the next", disk, due, Disks.head(generation + 1, 10, 3, 4, 2));
+            }
+        }
     }
 
     private static void fourBytesHighestFirst() {
