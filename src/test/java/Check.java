@@ -6,6 +6,18 @@ final class Check {
 
     private Check() {}
 
+    /** Runs the test that a sentence of the document has of its own, and tells whether it holds. */
+    static void sentence(String words, Runnable test) {
+        int before = told;
+        try {
+            test.run();
+        } catch (RuntimeException e) {
+            told++;
+            System.out.println("the test ended by " + e);
+        }
+        System.out.println((told == before ? "  holds   " : "  BROKEN  ") + words);
+    }
+
     static void due(String call, long got, long want) {
         if (got != want) {
             told++;
@@ -23,10 +35,11 @@ final class Check {
         same(call, got, "thrown as due");
     }
 
-    /** The class's own throw, by its text: not one that the Java machine threw in it. */
+    /** The class's own throw: one of the Java machine is told by the text that the machine gives it. */
     static boolean isOwn(RuntimeException e) {
         String text = String.valueOf(e.getMessage());
-        return e.getClass() == ArrayIndexOutOfBoundsException.class && text.startsWith("no such ");
+        return e.getClass() == ArrayIndexOutOfBoundsException.class
+                && !text.matches("Index -?[0-9]+ out of bounds for length [0-9]+");
     }
 
     static void same(String what, String got, String want) {

@@ -3,24 +3,25 @@ import java.util.function.IntSupplier;
 
 /** Runs of up to 512 calls, drawn from seeds, on the class and on the model: all answers are the same. */
 final class ModelTest {
-    private static final int RUNS = 3000;
-    private static final int CALLS = 512;
-    private static final int MOST_CALLS_IN_A_STEP = 5;
+    private static final int RUNS = 4000;
+    private static final int CALLS_IN_A_STEP = 5;
+    private static final int CALLS_FOR_A_SECTOR = 64;
     private static final int THREW = Integer.MIN_VALUE;
 
     private final Random random;
     private final int sectors;
-    private final PostDisk disk;
+    private final Disk disk;
     private final Model model;
     private final int style;
-    private int calls;
+    private final int callsForSectors;
 
     private ModelTest(int seed) {
         random = new Random(seed);
         sectors = random.nextInt(4) == 0 ? random.nextInt(80) - 8 : 16 + random.nextInt(12);
-        disk = new PostDisk(sectors);
+        disk = new Disk(sectors);
         model = new Model(sectors);
         style = random.nextInt(5);
+        callsForSectors = CALLS_FOR_A_SECTOR * random.nextInt(7);
     }
 
     public static void main(String[] args) {
@@ -31,12 +32,12 @@ final class ModelTest {
     }
 
     private void run(int seed) {
-        while (calls <= CALLS - MOST_CALLS_IN_A_STEP) {
-            if (!call("seed " + seed + " call " + calls)) {
+        while (disk.callsLeft() >= CALLS_IN_A_STEP + callsForSectors) {
+            if (!call("seed " + seed + ", calls left " + disk.callsLeft())) {
                 return;
             }
         }
-        for (int sector = 0; sector < Math.max(16, Math.min(64, sectors)); sector++) {
+        for (int sector = 0; disk.callsLeft() >= CALLS_FOR_A_SECTOR; sector++) {
             Disks.dueSector("seed " + seed, disk, sector, model.sector(sector));
         }
     }
@@ -119,7 +120,6 @@ final class ModelTest {
     }
 
     private boolean same(String call, IntSupplier got, IntSupplier want) {
-        calls++;
         int due = answer(want);
         int answer = answer(got);
         Check.due(call, answer, due);

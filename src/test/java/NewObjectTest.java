@@ -1,55 +1,78 @@
-/** Promise 1: S is the nearest of 16 .. 64, and it is up. */
+/** Promise 1: a new object. */
 final class NewObjectTest {
-    private static final int[][] NEAREST = {
-        {Integer.MIN_VALUE, 16}, {-1, 16}, {0, 16}, {15, 16}, {16, 16}, {17, 17}, {40, 40},
-        {63, 63}, {64, 64}, {65, 64}, {9999, 64}, {Integer.MAX_VALUE, 64}
-    };
-
     public static void main(String[] args) {
-        for (int[] pair : NEAREST) {
-            sectors(pair[0], pair[1]);
-        }
-        isUpAndEmpty();
-        objectsAreApart();
+        Check.sentence("S is the nearest of 16 .. 64: too small", NewObjectTest::tooSmall);
+        Check.sentence("S is the nearest of 16 .. 64: too large", NewObjectTest::tooLarge);
+        Check.sentence("S is the nearest of 16 .. 64: each of them", NewObjectTest::eachBetween);
+        Check.sentence("it is up", NewObjectTest::isUp);
+        Check.sentence("it is empty", NewObjectTest::isEmpty);
+        Check.sentence("it is apart from others", NewObjectTest::isApart);
         Check.end();
     }
 
-    private static void sectors(int asked, int due) {
-        PostDisk disk = new PostDisk(asked);
-        String made = "PostDisk(" + asked + ")";
-        for (int sector = 0; sector < due; sector++) {
-            for (int i = 0; i < 64; i++) {
-                Check.due(made + " octet", disk.octet(sector, i), 0);
-            }
+    private static void tooSmall() {
+        int[] small = {Integer.MIN_VALUE, -64, -16, -1, 0, 1, 2, 15};
+        for (int asked : small) {
+            dueSectors(asked, 16);
         }
+    }
+
+    private static void tooLarge() {
+        int[] large = {65, 66, 80, 128, 255, 256, 9999, 1 << 26, Integer.MAX_VALUE};
+        for (int asked : large) {
+            dueSectors(asked, 64);
+        }
+    }
+
+    private static void eachBetween() {
+        for (int asked = 16; asked <= 64; asked++) {
+            dueSectors(asked, asked);
+        }
+    }
+
+    private static void dueSectors(int asked, int due) {
+        Disk disk = new Disk(asked);
+        String made = "PostDisk(" + asked + ")";
+        Check.due(made + " octet(S - 1, 63)", disk.octet(due - 1, 63), 0);
         Check.outOfBounds(made + " octet(S, 0)", () -> disk.octet(due, 0));
         int room = 0;
         while (room < 100 && disk.end(0, true) > 0) {
             room++;
         }
-        Check.due(made + " room for events", room, Math.min(due - 2, 50));
+        Check.due(made + " room for events", room, Disks.mostRows(due));
     }
 
-    private static void isUpAndEmpty() {
-        PostDisk disk = new PostDisk(20);
-        Check.due("new start", disk.start(), PostDisk.STATE);
+    private static void isUp() {
+        Disk disk = new Disk(20);
+        Check.due("start", disk.start(), PostDisk.STATE);
+        Check.due("count(0)", disk.count(0), 0);
+        Check.due("end", disk.end(0, false), 1);
+        Check.due("power stays: sync", disk.sync(), 1);
+    }
+
+    private static void isEmpty() {
+        Disk disk = new Disk(20);
         for (int what = 0; what < 5; what++) {
-            Check.due("new count(" + what + ")", disk.count(what), 0);
+            Check.due("count(" + what + ")", disk.count(what), 0);
         }
-        Check.due("new writes", disk.writes(), 0);
-        Check.due("new wrong(0)", disk.wrong(0), 0);
-        Check.due("new wrong(1)", disk.wrong(1), PostDisk.NONE);
-        Check.due("new sync", disk.sync(), 0);
-        Check.due("new merge", disk.merge(100), 0);
-        Check.due("new drop", disk.drop(Integer.MAX_VALUE), 0);
-        Check.due("new writes after calls that had nothing to do", disk.writes(), 0);
+        Check.due("wrong(0)", disk.wrong(0), 0);
+        Check.due("wrong(1)", disk.wrong(1), PostDisk.NONE);
+        Check.due("row(0, 4)", disk.row(0, 4), PostDisk.NONE);
+        Check.outOfBounds("at(0, 0)", () -> disk.at(0, 0));
+        Check.due("sync", disk.sync(), 0);
+        Check.due("merge", disk.merge(100), 0);
+        Check.due("drop", disk.drop(Integer.MAX_VALUE), 0);
+        Check.due("writes", disk.writes(), 0);
     }
 
-    private static void objectsAreApart() {
-        PostDisk one = Disks.withRows(16, 3);
-        PostDisk other = new PostDisk(16);
+    private static void isApart() {
+        Disk one = Disks.withRows(16, 3);
+        Disk other = new Disk(16);
         Check.due("the other's count(0)", other.count(0), 0);
         Check.due("the one's count(0)", one.count(0), 3);
         Check.due("the other's octet", other.octet(2, 0), 0);
+        Disks.takeDown(one);
+        Check.due("the other is up", other.count(1), 0);
+        Check.due("the one is down", one.count(1), PostDisk.DOWN);
     }
 }
