@@ -57,11 +57,27 @@ final class TermsHeadsTest {
         Check.due("how many", full.octet(1, 9), 50);
         int[] fifty = Disks.upFrom(2, 50);
         Check.due("fifty", Disks.startedWith(64, Disks.head(8, 77, fifty), ZEROS).count(0), 50);
-        int[] many = {51, 52, 128, 255};
+        int[] many = {51, 52, 53, 54, 128, 255};
         for (int rows : many) {
-            int[] head = Disks.withByte(Disks.head(8, 77, fifty), 9, rows);
-            Check.due(rows + " rows", Disks.startedWith(64, head, ZEROS).count(2), 0);
+            Check.due(rows + " rows", Disks.startedWith(64, headOfMore(rows), ZEROS).count(2), 0);
         }
+    }
+
+    /** The bytes behind the fiftieth row are the sum; here they, too, could be sectors of rows. */
+    private static int[] headOfMore(int rows) {
+        int[] head = Disks.head(8, 77, Disks.upFrom(2, 50));
+        for (int greatest = 1; !couldBeSectors(head); greatest++) {
+            head = Disks.withByte(Disks.head(8, greatest, Disks.upFrom(2, 50)), 9, rows);
+        }
+        return head;
+    }
+
+    private static boolean couldBeSectors(int[] head) {
+        boolean all = head[9] > 50;
+        for (int i = 60; i < 64; i++) {
+            all = all && head[i] >= 2 && head[i] < 64;
+        }
+        return all;
     }
 
     private static void orderOfNumbers() {
@@ -165,6 +181,13 @@ final class TermsHeadsTest {
         altered[60] ^= 1;
         dueNone("both altered", Disks.startedWith(16, altered, altered));
         dueNone("none is so", Disks.startedWith(16, Disks.row(1, 1), Disks.head(8, 77, 1)));
+        Disk held = Disks.withRows(16, 3);
+        held.drop(2);
+        Disks.takeDown(held);
+        held.poke(0, 0, 200);
+        held.poke(1, 0, 200);
+        held.start();
+        dueNone("what was held before is gone", held);
     }
 
     private static void dueNone(String what, Disk disk) {

@@ -48,10 +48,25 @@ final class TermsMoveTest {
         Disk full = Disks.withEvents(16, 14);
         Check.due("all sectors are in rows", full.merge(100), 0);
         Check.due("nothing was written", full.writes(), 15);
+        Check.due("the last of fifty rows in a lesser sector", lastInALesserSector().merge(100), 0);
         Disk disk = Disks.withRows(16, 2);
         disk.drop(2);
         Check.due("one row in sector 3", disk.merge(1), 1);
         Check.due("then in sector 2", disk.merge(1), 0);
+    }
+
+    /** Fifty rows in sectors 2 .. 51; the first of them was dropped, so the last is in sector 2. */
+    private static Disk lastInALesserSector() {
+        Disk disk = new Disk(64);
+        for (int number = 1; number <= 50; number++) {
+            disk.end(0, number > 1);
+        }
+        disk.sync();
+        disk.drop(2);
+        Check.due("end", disk.end(0, true), 51);
+        disk.sync();
+        Check.due("its sector", disk.row(49, 4), 2);
+        return disk;
     }
 
     private static void asTheyAre() {
