@@ -578,6 +578,11 @@ public final class PostDisk {
             return slot >= 0 && slot < WAITING_SLOTS ? lengths[slot] : 0;
         }
 
+        private byte byteOf(int slot, int i) {
+            boolean isThere = slot >= 0 && slot < WAITING_SLOTS && i >= 0 && i < MOST_CONTENT;
+            return isThere ? content[slot * MOST_CONTENT + i] : 0;
+        }
+
         boolean append(int b) {
             int length = openLength();
             if (ended < 0 || ended >= WAITING_SLOTS || length < 0 || length >= MOST_CONTENT) {
@@ -607,7 +612,7 @@ public final class PostDisk {
         void removeEnded() {
             int length = openLength();
             for (int i = 0; i < length && i < MOST_CONTENT; i++) {
-                content[i] = content[ended * MOST_CONTENT + i];
+                content[i] = byteOf(ended, i);
             }
             lengths[0] = length;
             ended = 0;
@@ -621,8 +626,8 @@ public final class PostDisk {
             image.begin(marks[slot]);
             image.appendFour(number);
             image.append(length);
-            for (int i = 0; i < length && i < MOST_CONTENT; i++) {
-                image.append(content[slot * MOST_CONTENT + i]);
+            for (int i = 0; i < length; i++) {
+                image.append(byteOf(slot, i));
             }
             image.seal();
         }

@@ -7,6 +7,7 @@ final class AddTest {
         Check.sentence("DOWN", AddTest::whileDown);
         Check.sentence("ROOM (it has 40)", AddTest::roomForForty);
         Check.sentence("forty bytes behind rows that wait", AddTest::fortyBehindOthers);
+        Check.sentence("bytes behind fifty rows that wait, over their sync", AddTest::behindFifty);
         Check.end();
     }
 
@@ -104,5 +105,20 @@ final class AddTest {
             Check.due("at(49, " + i + ")", disk.at(49, i), 101 + i);
         }
         Check.due("bytes over the sync", disk.count(4), 40);
+    }
+
+    private static void behindFifty() {
+        Disk disk = new Disk(64);
+        for (int i = 1; i <= 50; i++) {
+            Check.due("end", disk.end(0, i > 46), i);
+        }
+        for (int i = 1; i <= 40; i++) {
+            disk.add(200 + i);
+        }
+        Check.due("sync", disk.sync(), 50);
+        Check.due("drop", disk.drop(51), 46);
+        Check.due("end of the row behind them", disk.end(7, false), 51);
+        Check.due("its sync", disk.sync(), 1);
+        Disks.dueSector("its sector", disk, 2, Disks.row(8, 51, Disks.upFrom(201, 40)));
     }
 }
